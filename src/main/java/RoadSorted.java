@@ -805,19 +805,16 @@ public final class RoadSorted {
                 if (climbs(upper + 1)) {
                     swap(upper, upper + 1);
                     changes++;
-                    countMove(order[upper]);
-                    countMove(order[upper + 1]);
+                    moved[order[upper]]++;
+                    moved[order[upper + 1]]++;
+                    weigh(order[upper]);
+                    weigh(order[upper + 1]);
                 }
             }
             if (count > 0 && draw() % 100 < bump) {
                 move(draw() % count, 0);
             }
             jolt++;
-        }
-
-        private void countMove(int letter) {
-            moved[letter]++;
-            weigh(letter);
         }
 
         /** Whether the letter at a place, below another one, climbs past it. */
@@ -925,7 +922,7 @@ public final class RoadSorted {
                     top++;
                     stack[top] = code >= 0 ? code : code == -1 ? first : code == -2 ? second : third;
                 } else if (code == -'!') {
-                    stack[top] = bit(stack[top] == 0);
+                    stack[top] = stack[top] == 0 ? 1 : 0;
                 } else {
                     top--;
                     stack[top] = joined(-code, stack[top], stack[top + 1]);
@@ -936,20 +933,16 @@ public final class RoadSorted {
 
         private static int joined(int sign, int a, int b) {
             switch (sign) {
-                case '|': return bit(a != 0 || b != 0);
-                case '&': return bit(a != 0 && b != 0);
-                case '<': return bit(a < b);
-                case '=': return bit(a == b);
-                case '>': return bit(a > b);
+                case '|': return a != 0 || b != 0 ? 1 : 0;
+                case '&': return a != 0 && b != 0 ? 1 : 0;
+                case '<': return a < b ? 1 : 0;
+                case '=': return a == b ? 1 : 0;
+                case '>': return a > b ? 1 : 0;
                 case '+': return a + b;
                 case '-': return a - b;
                 case '*': return a * b;
                 default: return b == 0 ? 0 : a / b;
             }
-        }
-
-        private static int bit(boolean holds) {
-            return holds ? 1 : 0;
         }
     }
 
