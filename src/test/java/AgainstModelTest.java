@@ -8,7 +8,7 @@ import java.util.Random;
 
 /** Runs of calls by lot (the same ones each time): the class and the model of the document answer alike. */
 public final class AgainstModelTest {
-    private static final int RUNS = 500, CALLS = 480;
+    private static final int RUNS = 500, CALLS = 440;
 
     /** For each call how often it comes, and what its numbers are of. */
     private static final String[] CALL_KINDS = {

@@ -198,6 +198,12 @@ public final class LettersTest {
         Due.due("puts(-1, 0)", x.puts(-1, 0), BAD);
         order("bad puts", x, 3, 0, 2, 1);
         Due.due("CHANGES are as they were", x.bag(2), 0);
+        RoadSorted most = new RoadSorted();
+        most.deal(14);
+        Due.due("puts(0, 13) of 14", most.puts(0, 13), 0);
+        order("puts(0, 13) of 14", most, 1, 2, 3, 4, 5, 6, 7, 8, 9, 10, 11, 12, 13, 0);
+        Due.due("puts(0, 0) of 14", most.puts(0, 0), 13);
+        order("puts(0, 0) of 14", most, 0, 1, 2, 3, 4, 5, 6, 7, 8, 9, 10, 11, 12, 13);
     }
 
     private static void at() {

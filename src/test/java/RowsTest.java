@@ -230,10 +230,10 @@ public final class RowsTest {
     private static void count() {
         RoadSorted x = new RoadSorted();
         x.seed(-5);
-        x.letter(0, 1, 3);
+        x.letter(0, 1, 0);
         x.letter(0, 2, 3);
-        x.letter(0, 3, 9);
-        x.letter(0, 4, 0);
+        x.letter(0, 3, 3);
+        x.letter(0, 4, 9);
         x.jolts(1);
         x.bump(44);
         Due.text(x, "fee 1");

@@ -203,7 +203,7 @@ public final class SheetsTest {
 
     private static void miles() {
         // Towns 1 2 3; behind 1 jolt 2 1 3; behind 2 jolts 2 3 1; behind 3 jolts 3 2 1.
-        int[][] sheets = {{1, 2, 3}, {2, 1, 3}, {2, 3, 1}, {3, 2, 1}, {3}, {0, 9}, {3, NONE, 1}, {NONE, 3}, {}, {NONE}, {3, 2, 1, 7, -5},
+        int[][] sheets = {{1, 2, 3}, {2, 1, 3}, {2, 3, 1}, {3, 2, 1}, {3}, {0, 9}, {3, NONE, 1}, {NONE, 3}, {}, {NONE}, {3, 2, 1, 7, 5},
             {9, 9, 9}, {99999, -99999, 0}};
         int[] number = {0, 1, 2, 3, 3, 0, 3, 2, 0, 0, 3, 0, 3};
         int[] differences = {0, 0, 0, 0, 0, 8, 0, 0, 0, 0, 12, 21, 199998};
@@ -218,9 +218,9 @@ public final class SheetsTest {
     }
 
     private static void milesFindings() {
-        RoadSorted none = sheetOf(0, 3, -4);
+        RoadSorted none = sheetOf(0, 3, -4, 5);
         Due.due("miles(0, 0) without letters", none.miles(0, 0), 0);
-        Due.due("miles(0, 1) without letters", none.miles(0, 1), 7);
+        Due.due("miles(0, 1) without letters", none.miles(0, 1), 12);
         Due.due("miles(1, 0)", none.miles(1, 0), NOTHING);
         Due.due("miles(1, 2): BAD stands first", none.miles(1, 2), BAD);
         Due.due("miles(0, -1)", none.miles(0, -1), BAD);

@@ -49,6 +49,10 @@ public final class TextsTest {
         x.trim(6);
         Due.due("text() of the first bytes", x.text(), 1);
         Due.due("fee()", x.fee(), 12);
+        x.feed(0x66656520, 0x3132202b, 0x6a2a3130);
+        x.trim(5);
+        Due.due("text() of half a number", x.text(), 2);
+        Due.due("fee()", x.fee(), 1);
     }
 
     private static void text() {
@@ -57,6 +61,8 @@ public final class TextsTest {
         x.feed(0x20202020, 0x20202020, 0x20202020);
         Due.due("text() of blanks", x.text(), -112);
         Due.due("the tape is used up", x.count(6), 0);
+        Due.due("text() with a fault at a word", Due.text(x, "fees"), -100);
+        Due.due("text() behind it, with no blank ahead", Due.text(x, "fee ((!t"), -107);
         for (int i = 0; i < 14; i++) {
             Due.due("text " + i, Due.text(x, i % 3 == 0 ? "rise t" : i % 3 == 1 ? "fee m" : "fine p"), i);
             Due.due("count(4)", x.count(4), i + 1);
@@ -121,6 +127,9 @@ public final class TextsTest {
         fault("rise  ", 6);
         fault("ris t", 0);
         fault("riset", 0);
+        fault("xise t", 0);
+        fault("rise ta", 5);
+        fault("rise tz", 5);
         fault("riser t", 0);
         fault("  fees m", 2);
         fault("Rise t", 0);
