@@ -767,6 +767,9 @@ public final class RoadSorted {
 
         /** The letter at one place is taken out and comes to the other place. */
         void move(int from, int to) {
+            if (!has(from) || !has(to)) {
+                return;
+            }
             int letter = order[from];
             for (int place = from; place < to; place++) {
                 order[place] = order[place + 1];
