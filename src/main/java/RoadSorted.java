@@ -333,7 +333,11 @@ public final class RoadSorted {
         if (!isWithin(text, 0, lawCount - 1) || !isWithin(what, 0, 1)) {
             return BAD;
         }
-        return what == 0 ? laws[text].key : laws[text].operands;
+        Law law = laws[text];
+        if (law == null) {
+            return BAD;
+        }
+        return what == 0 ? law.key : law.operands;
     }
 
     public int why(int key) {
@@ -611,7 +615,7 @@ public final class RoadSorted {
 
     private int lastTextOf(int key) {
         for (int i = lawCount - 1; i >= 0; i--) {
-            if (laws[i].key == key) {
+            if (laws[i] != null && laws[i].key == key) {
                 return i;
             }
         }
@@ -918,20 +922,24 @@ public final class RoadSorted {
         }
 
         int gives(int first, int second, int third) {
-            int top = -1;
+            int height = 0;
             for (int i = 0; i < codes.length; i++) {
                 int code = codes[i];
                 if (code >= LEAST_NAME) {
-                    top++;
-                    stack[top] = code >= 0 ? code : code == -1 ? first : code == -2 ? second : third;
+                    if (height < stack.length) {
+                        stack[height] = code >= 0 ? code : code == -1 ? first : code == -2 ? second : third;
+                        height++;
+                    }
                 } else if (code == -'!') {
-                    stack[top] = stack[top] == 0 ? 1 : 0;
-                } else {
-                    top--;
-                    stack[top] = joined(-code, stack[top], stack[top + 1]);
+                    if (height > 0) {
+                        stack[height - 1] = stack[height - 1] == 0 ? 1 : 0;
+                    }
+                } else if (height > 1) {
+                    height--;
+                    stack[height - 1] = joined(-code, stack[height - 1], stack[height]);
                 }
             }
-            return stack[0];
+            return height > 0 ? stack[0] : 0;
         }
 
         private static int joined(int sign, int a, int b) {
