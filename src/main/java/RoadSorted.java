@@ -238,14 +238,14 @@ public final class RoadSorted {
             return BAD;
         }
         int best = 0;
-        int least = Integer.MAX_VALUE;
+        int least = 0;
         think(0);
         for (int k = 0; k <= n; k++) {
             branch.becomeAs(thought);
             branch.turnOver();
             branch.ride(n - k);
             int mess = branch.mess();
-            if (mess < least) {
+            if (k == 0 || mess < least) {
                 best = k;
                 least = mess;
             }
@@ -262,11 +262,11 @@ public final class RoadSorted {
             return NOTHING;
         }
         int best = 0;
-        int least = Integer.MAX_VALUE;
+        int least = 0;
         think(0);
         for (int n = 0; n <= MOST_MILES; n++) {
             int differences = differences(thought, sheets[sheet]);
-            if (differences < least) {
+            if (n == 0 || differences < least) {
                 best = n;
                 least = differences;
             }

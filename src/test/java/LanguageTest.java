@@ -1,3 +1,4 @@
+import java.io.InputStream;
 import java.lang.reflect.Constructor;
 import java.lang.reflect.Field;
 import java.lang.reflect.Method;
@@ -7,6 +8,7 @@ import java.nio.file.Files;
 import java.nio.file.Path;
 import java.util.ArrayList;
 import java.util.List;
+import java.util.Set;
 import java.util.TreeSet;
 import java.util.regex.Matcher;
 import java.util.regex.Pattern;
@@ -20,6 +22,7 @@ public final class LanguageTest {
         face();
         classes();
         text();
+        library();
         Due.end();
     }
 
@@ -109,11 +112,46 @@ public final class LanguageTest {
         }
     }
 
-    private static void text() throws Exception {
-        String source = Files.readString(SOURCE, StandardCharsets.ISO_8859_1);
-        Due.holds("signs are 10 and 32 to 126", source.chars().allMatch(c -> c == '\n' || c >= 32 && c <= 126));
-        String code = source.replaceAll("(?s)/\\*.*?\\*/", "").replaceAll("//[^\n]*", "")
+    private static String source() throws Exception {
+        return Files.readString(SOURCE, StandardCharsets.ISO_8859_1);
+    }
+
+    /** The source without its comments, texts and signs. */
+    private static String code() throws Exception {
+        return source().replaceAll("(?s)/\\*.*?\\*/", "").replaceAll("//[^\n]*", "")
                 .replaceAll("\"[^\"]*\"", "\"\"").replaceAll("'.'", "0");
+    }
+
+    /** Rule 4: only functions that it names, and no class of the library that only the compiler puts in. */
+    private static void library() throws Exception {
+        Set<String> functions = Set.of("System.arraycopy", "Arrays.copyOf", "Arrays.copyOfRange", "Arrays.fill", "Math.max", "Math.min",
+                "Math.abs", "Math.floorDiv", "Math.floorMod", "Integer.compare", "Integer.bitCount");
+        Matcher used = Pattern.compile("\\b(?:System|Arrays|Math|Integer|Long|Short|Byte|Character|String|Float|Double)\\.\\w+\\b(\\()?")
+                .matcher(code());
+        while (used.find()) {
+            String name = used.group().replace("(", "");
+            Due.holds(name + " is a function of rule 4", used.group(1) != null && functions.contains(name));
+        }
+        Set<String> known = Set.of("java/lang/Object", "java/lang/String", "java/lang/System", "java/lang/Math", "java/lang/Integer",
+                "java/util/Arrays");
+        List<Class<?>> all = new ArrayList<>(List.of(RoadSorted.class.getDeclaredClasses()));
+        all.add(RoadSorted.class);
+        for (Class<?> c : all) {
+            String bytes;
+            try (InputStream in = c.getResourceAsStream(c.getName() + ".class")) {
+                bytes = new String(in.readAllBytes(), StandardCharsets.ISO_8859_1);
+            }
+            Matcher named = Pattern.compile("javax?/\\w+(?:/\\w+)*").matcher(bytes);
+            while (named.find()) {
+                Due.holds(c + " uses " + named.group(), known.contains(named.group()));
+            }
+        }
+    }
+
+    private static void text() throws Exception {
+        String source = source();
+        Due.holds("signs are 10 and 32 to 126", source.chars().allMatch(c -> c == '\n' || c >= 32 && c <= 126));
+        String code = code();
         String[] words = {"throw", "throws", "try", "catch", "finally", "synchronized", "assert", "package", "protected", "var", "record",
             "volatile", "native", "transient", "Object", "System\\.(?!arraycopy)\\w+", "Math\\.\\w+Exact", "hashCode", "toString"};
         for (String word : words) {
